@@ -28,7 +28,8 @@ public final class TruthFilters {
     private final boolean[] taken = new boolean[SNAPSHOTS];
     private final char[] buffer = new char[BUFFER_ROOM];
     private int bufferLength = 0;
-    private final int[] row = new int[COLUMNS];
+    /** The row that a filter is computed for: one of a table, or one that is on trial. */
+    private final int[] loaded = new int[COLUMNS];
     private final Evaluator evaluator = new Evaluator();
     private final Candidates candidates = new Candidates();
     private final Reader reader = new Reader();
@@ -57,15 +58,15 @@ public final class TruthFilters {
             throw new IllegalStateException("the table is full");
         }
         save();
-        row[0] = a;
-        row[1] = b;
-        row[2] = c;
-        row[3] = d;
+        loaded[0] = a;
+        loaded[1] = b;
+        loaded[2] = c;
+        loaded[3] = d;
         if (rowViolates(now.checks[table])) {
             return refuse();
         }
         for (int k = 0; k < COLUMNS; k++) {
-            now.cells[place(table, number, k)] = row[k];
+            now.cells[place(table, number, k)] = loaded[k];
         }
         now.rowCounts[table] = number + 1;
         return number;
@@ -361,12 +362,12 @@ public final class TruthFilters {
             return NONE;
         }
         loadRow(table, row);
-        int unknowns = unknownsOf(this.row);
+        int unknowns = unknownsOf(loaded);
         int open = unknowns & filter.columnSet();
         if (Integer.bitCount(open) > 2) {
             return NONE;
         }
-        candidates.list(filter, this.row);
+        candidates.list(filter, loaded);
         return certainty(filter, unknowns, open);
     }
 
@@ -536,7 +537,7 @@ public final class TruthFilters {
 
     private void loadRow(int table, int number) {
         for (int k = 0; k < COLUMNS; k++) {
-            row[k] = now.cells[place(table, number, k)];
+            loaded[k] = now.cells[place(table, number, k)];
         }
     }
 
@@ -647,7 +648,7 @@ public final class TruthFilters {
 
     private int truthFor(int table, int number, Filter filter) {
         loadRow(table, number);
-        return evaluator.truthOf(filter, row, unknownsOf(row));
+        return evaluator.truthOf(filter, loaded, unknownsOf(loaded));
     }
 
     private int rowsWith(int table, Filter filter, int truth) {
@@ -690,7 +691,7 @@ public final class TruthFilters {
         int falses = 0;
         for (int r = 0; r < now.rowCounts[table]; r++) {
             loadRow(table, r);
-            int truth = Step.truthOf(step, row, unknownsOf(row));
+            int truth = Step.truthOf(step, loaded, unknownsOf(loaded));
             if (truth == TRUE) {
                 trues |= 1 << r;
             } else if (truth == FALSE) {
@@ -701,12 +702,12 @@ public final class TruthFilters {
     }
 
     private boolean rowViolates(Filter check) {
-        return check != null && evaluator.truthOf(check, row, unknownsOf(row)) == FALSE;
+        return check != null && evaluator.truthOf(check, loaded, unknownsOf(loaded)) == FALSE;
     }
 
     private boolean wouldViolate(int table, int number, int column, int value) {
         loadRow(table, number);
-        row[column] = value;
+        loaded[column] = value;
         return rowViolates(now.checks[table]);
     }
 
@@ -728,13 +729,13 @@ public final class TruthFilters {
         boolean everFalse = false;
         for (int i = 0; i < firstTries && !(everTrue && everFalse); i++) {
             if (first < COLUMNS) {
-                row[first] = candidates.valueAt(i);
+                loaded[first] = candidates.valueAt(i);
             }
             for (int j = 0; j < secondTries && !(everTrue && everFalse); j++) {
                 if (second < COLUMNS) {
-                    row[second] = candidates.valueAt(j);
+                    loaded[second] = candidates.valueAt(j);
                 }
-                if (evaluator.truthOf(filter, row, unknowns) == TRUE) {
+                if (evaluator.truthOf(filter, loaded, unknowns) == TRUE) {
                     everTrue = true;
                 } else {
                     everFalse = true;

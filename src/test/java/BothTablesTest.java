@@ -155,6 +155,10 @@ public final class BothTablesTest {
         countText(x, "2 2 2 1 0 3 6 1");
         x.remove(0, 2);
         countText(x, "1 2 2 1 0 3 6 1");
+        for (int slot = 0; slot < 6; slot++) {
+            TruthFilters one = Expect.put(new TruthFilters(), slot, "a?");
+            Expect.that("one filter, in slot " + slot, one.count(2), 1);
+        }
     }
 
     private static void countsWrong() {

@@ -116,6 +116,10 @@ public final class FiltersTest {
         Expect.that("saved", x.count(6), 6);
         Expect.that("it is not the check", x.change(0, 0, 0, 99), 1);
         x.undo();
+        Expect.put(x, 2, "a<8");
+        Expect.that("one row violates it", x.check(0, 2), 1);
+        Expect.that("refusals", x.count(5), 2);
+        x.undo();
         Expect.that("check that holds", x.check(0, 1), 0);
         Expect.that("refusals", x.count(5), 1);
         Expect.that("rows with unknown check", x.count(3), 1);
@@ -459,6 +463,18 @@ public final class FiltersTest {
         certain(U, U, U, 4, "a?&b?", 2);
         certain(U, U, U, 4, "a=1&b=1&c?", NONE);
         certain(U, U, U, 4, "d=4", 2);
+        certain(50, U, 3, 4, "b=a", 1);
+        certain(50, U, 3, U, "b<a&d>a", 1);
+        certain(3, 4, U, 50, "c<d|c>d", 1);
+        TruthFilters x = Expect.put(fourRows(), 0, "a=1|a=3");
+        int[] due = {2, 1, 2, 2};
+        for (int r = 0; r < 4; r++) {
+            Expect.that("certain of row " + r, x.certain(0, r, 0), due[r]);
+        }
+        Expect.that("certain of table 1 after that", x.certain(1, 0, 0), 2);
+        Expect.put(x, 0, "!(a=1&c=0)");
+        Expect.that("certain of table 0", x.certain(0, 3, 0), 0);
+        Expect.that("and then of table 1", x.certain(1, 0, 0), 2);
     }
 
     private static void certainAtEdges() {

@@ -73,7 +73,8 @@ public final class TextTest {
     }
 
     private static void firstErrors() {
-        for (String whole : new String[] {"", "a", "a=", "a=b", "d>d", "a=0", "a=9", "a=99", "a=10", "!", "!!", "(", "((",
+        for (String whole : new String[] {"", "a", "a=", "a=b", "d>d", "a=0", "a=9", "a=99", "a=10", "!", "!!", "(",
+                "((",
                 "!(", "(a?", "(a?)", "((a?)", "a?&", "a?|", "a?&!", "a?&(", "a=1|b<2&c>3", "b?", "(!(a=5))&d"}) {
             error(whole, whole.length());
         }
