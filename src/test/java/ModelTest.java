@@ -23,6 +23,7 @@ public final class ModelTest {
             new ModelTest(seed).run();
         }
         shortStrings();
+        twoUnknownCells();
         Expect.that("each call was made often", Arrays.stream(KINDS).min().getAsInt() > 1000, true);
         Expect.end();
     }
@@ -60,6 +61,35 @@ public final class ModelTest {
             Expect.that("first error of " + text, program.firstError(), model.firstError());
             Expect.that("define of " + text, Expect.outcome(() -> program.define(0)),
                     Expect.outcome(() -> model.define(0)));
+        }
+    }
+
+    /** Filters that hold for all but a few of the pairs of values of two cells, where values lie close together. */
+    private static void twoUnknownCells() {
+        Random random = new Random(7);
+        String[] comparisons = {"a<b", "a>b", "a=b"};
+        for (int i = 0; i < 3000; i++) {
+            int low = random.nextInt(5) == 0 ? 0 : random.nextInt(97);
+            int high = Math.min(low + 1 + random.nextInt(4), 99);
+            String pair = comparisons[random.nextInt(3)];
+            String[] tests = {"a>" + low, "b>c", "a<" + high, "b<d", pair, "b<" + high, "a>c", "!" + pair};
+            StringBuilder text = new StringBuilder("!(");
+            for (int k = 0; k < tests.length; k++) {
+                if (k == 4 || random.nextInt(3) > 0) {
+                    text.append(text.length() > 2 ? random.nextInt(8) == 0 ? "|" : "&" : "").append(tests[k]);
+                }
+            }
+            text.append(')');
+            TruthFilters program = new TruthFilters();
+            Model model = new Model();
+            for (int k = 0; k < text.length(); k++) {
+                program.append(text.charAt(k));
+                model.append(text.charAt(k));
+            }
+            Expect.that("define of " + text, program.define(0), model.define(0));
+            program.add(0, -1, -1, low, high);
+            model.add(0, -1, -1, low, high);
+            Expect.that("certain of " + text, program.certain(0, 0, 0), model.certain(0, 0, 0));
         }
     }
 
@@ -129,7 +159,7 @@ public final class ModelTest {
     }
 
     private int strange() {
-        int[] numbers = {-1, -2, -3, 2, 4, 6, 7, 8, 16, 32, 100, 1000, Integer.MAX_VALUE, Integer.MIN_VALUE};
+        int[] numbers = {-1, -2, -3, 2, 3, 4, 5, 6, 7, 8, 16, 32, 100, 1000, Integer.MAX_VALUE, Integer.MIN_VALUE};
         return numbers[random.nextInt(numbers.length)];
     }
 
