@@ -1,5 +1,8 @@
+import java.util.ArrayList;
+import java.util.List;
 import java.util.function.Consumer;
 import java.util.function.LongSupplier;
+import java.util.function.Supplier;
 
 /** What the tests share: comparing answers, expecting exceptions, and looking at all that an object shows. */
 final class Expect {
@@ -11,8 +14,18 @@ final class Expect {
 
     private static int asked = 0;
     private static int wrong = 0;
+    private static String topic = "";
 
     private Expect() {
+    }
+
+    /** What the next answers are about: it stands ahead of each message. */
+    static void about(String newTopic) {
+        topic = newTopic.isEmpty() ? "" : newTopic + ": ";
+    }
+
+    static int asked() {
+        return asked;
     }
 
     static void that(String what, Object got, Object due) {
@@ -20,7 +33,7 @@ final class Expect {
         if (!got.equals(due)) {
             wrong++;
             if (wrong <= 50) {
-                System.out.println(what + " answered " + got + ", due is " + due);
+                System.out.println(topic + what + " answered " + got + ", due is " + due);
             }
         }
     }
@@ -80,31 +93,66 @@ final class Expect {
         return text.toString();
     }
 
-    /** All that queries tell of the state and the buffer. */
-    static String look(TruthFilters x) {
+    /** What queries tell of the state: the tables, the filters, the checks and the refusals. */
+    static String state(TruthFilters x) {
         StringBuilder text = new StringBuilder();
         text.append(table(x, 0)).append('/').append(table(x, 1));
         for (int slot = 0; slot < 6; slot++) {
             text.append(' ').append(text(x, slot));
         }
-        for (int what = 0; what < 8; what++) {
+        for (int what = 0; what < 6; what++) {
             text.append(' ').append(x.count(what));
         }
-        return text.append(' ').append(x.firstError()).toString();
+        return text.toString();
     }
 
-    /** Also what lies deeper: the buffer, the saved states and the snapshots; the object is used up by that. */
-    static String lookDeep(TruthFilters x) {
-        StringBuilder text = new StringBuilder(look(x));
-        text.append(" define ").append(outcome(() -> x.define(5))).append(' ').append(text(x, 5));
-        for (int i = 0; i < 7; i++) {
-            text.append(" undo ").append(outcome(x::undo)).append(' ').append(look(x));
+    /** The state, the number of saved states and what shows of the buffer. */
+    static String look(TruthFilters x) {
+        return state(x) + ' ' + x.count(6) + ' ' + x.count(7) + ' ' + x.firstError();
+    }
+
+    interface Call {
+        long on(TruthFilters x);
+    }
+
+    /** What shows the things behind a look: the text in the buffer, saved states, snapshots and checks. */
+    private static List<Call> probes() {
+        List<Call> probes = new ArrayList<>();
+        probes.add(x -> 0);
+        probes.add(x -> x.define(5));
+        for (int i = 1; i <= 7; i++) {
+            int times = i;
+            probes.add(x -> undoTimes(x, times));
         }
-        for (int slot = 0; slot < 2; slot++) {
-            int from = slot;
-            text.append(" goBack ").append(outcome(() -> x.goBack(from))).append(' ').append(look(x));
+        for (int i = 0; i < 2; i++) {
+            int number = i;
+            probes.add(x -> x.goBack(number));
+            probes.add(x -> x.add(number, 0, 0, 0, 0));
+            probes.add(x -> x.add(number, 99, 99, 99, 99));
         }
-        return text.toString();
+        return probes;
+    }
+
+    private static final List<Call> PROBES = probes();
+
+    private static long undoTimes(TruthFilters x, int times) {
+        for (int i = 1; i < times; i++) {
+            x.undo();
+        }
+        return x.undo();
+    }
+
+    /** After the call an object shows what its twin shows without it, however deep one looks. */
+    static void unchangedBy(String what, Supplier<TruthFilters> maker, Consumer<TruthFilters> call) {
+        for (int i = 0; i < PROBES.size(); i++) {
+            Call probe = PROBES.get(i);
+            TruthFilters x = maker.get();
+            thrown(x, call);
+            TruthFilters twin = maker.get();
+            String got = outcome(() -> probe.on(x)) + ' ' + look(x);
+            String due = outcome(() -> probe.on(twin)) + ' ' + look(twin);
+            that("after " + what + " and probe " + i + " the object", got, due);
+        }
     }
 
     /** An answer, or the class of the exception. */
@@ -132,20 +180,24 @@ final class Expect {
         return x;
     }
 
-    /** The call on a sample throws exactly this exception, and nothing of the sample is changed by it. */
-    static void refused(String what, Class<?> due, Consumer<TruthFilters> call) {
-        refused(what, due, sample(), sample(), call);
-    }
-
-    /** The same on an object of one's own, with a twin that is left alone. */
-    static void refused(String what, Class<?> due, TruthFilters x, TruthFilters twin, Consumer<TruthFilters> call) {
-        Class<?> got = Void.class;
+    /** The class of the exception that a call throws; Void.class if it throws none. */
+    static Class<?> thrown(TruthFilters x, Consumer<TruthFilters> call) {
         try {
             call.accept(x);
+            return Void.class;
         } catch (RuntimeException e) {
-            got = e.getClass();
+            return e.getClass();
         }
-        that(what + " throws", got, due);
-        that("after " + what + " the object", lookDeep(x), lookDeep(twin));
+    }
+
+    /** The call on a sample throws exactly this exception, and nothing of the sample is changed by it. */
+    static void refused(String what, Class<?> due, Consumer<TruthFilters> call) {
+        refused(what, due, Expect::sample, call);
+    }
+
+    /** The same on objects of one's own. */
+    static void refused(String what, Class<?> due, Supplier<TruthFilters> maker, Consumer<TruthFilters> call) {
+        that(what + " throws", thrown(maker.get(), call), due);
+        unchangedBy(what, maker, call);
     }
 }

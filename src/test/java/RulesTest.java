@@ -8,24 +8,10 @@ import java.nio.file.Path;
 import java.util.Arrays;
 import java.util.TreeSet;
 import java.util.function.IntConsumer;
-import java.util.stream.Collectors;
 
 /** The face of the class, the rules of LANGUAGE.md that a program can look after, and the room that a run takes. */
 public final class RulesTest {
     private static final String SOURCE = "src/main/java/TruthFilters.java";
-    private static final String[] FACE = {
-        "int add(int,int,int,int,int) INDEX ARGUMENT STATE", "int change(int,int,int,int) INDEX ARGUMENT",
-        "int drop(int,int) INDEX", "int define(int) INDEX ARGUMENT",
-        "int combine(int,int,int,int) INDEX ARGUMENT STATE", "int check(int,int) INDEX STATE",
-        "int remove(int,int) INDEX STATE", "int update(int,int,int,int) INDEX ARGUMENT STATE",
-        "int append(int) ARGUMENT STATE", "int clearBuffer()", "int firstError()", "int undo() STATE",
-        "int keep(int) ARGUMENT", "int goBack(int) ARGUMENT STATE", "int cell(int,int,int) INDEX",
-        "int column(int,int,int) INDEX ARGUMENT", "int group(int,int,int,int) INDEX ARGUMENT",
-        "int truth(int,int,int) INDEX", "int rows(int,int,int,int) INDEX ARGUMENT",
-        "int filter(int,int) INDEX ARGUMENT", "int letter(int,int) INDEX ARGUMENT",
-        "int compare(int,int,int,int) INDEX ARGUMENT", "int certain(int,int,int) INDEX",
-        "int join(int,int,int) INDEX ARGUMENT", "int among(int,int,int) INDEX", "int count(int) ARGUMENT",
-        "double share(int,int) INDEX"};
 
     public static void main(String[] args) throws IOException {
         face();
@@ -35,19 +21,18 @@ public final class RulesTest {
         Expect.end();
     }
 
-    private static String signature(Method method) {
-        String parameters = Arrays.stream(method.getParameterTypes()).map(Class::getName)
-                .collect(Collectors.joining(","));
-        StringBuilder text = new StringBuilder(method.getReturnType() + " " + method.getName());
-        text.append('(').append(parameters).append(')');
-        for (Class<?> thrown : method.getExceptionTypes()) {
-            text.append(thrown == Expect.INDEX ? " INDEX" : thrown == Expect.ARGUMENT ? " ARGUMENT"
-                    : thrown == Expect.STATE ? " STATE" : " " + thrown);
+    /** The methods as the document writes them, without the names of their parameters. */
+    private static TreeSet<String> promisedMethods() throws IOException {
+        TreeSet<String> methods = new TreeSet<>();
+        for (String line : Document.read().face()) {
+            if (line.matches("public (int|double) .*")) {
+                methods.add(Document.withoutNames(line.replaceFirst("public ", "")));
+            }
         }
-        return text.toString();
+        return methods;
     }
 
-    private static void face() {
+    private static void face() throws IOException {
         Class<?> face = TruthFilters.class;
         Expect.that("the class", Modifier.toString(face.getModifiers()), "public final");
         Expect.that("constructors", Arrays.toString(face.getDeclaredConstructors()), "[public TruthFilters()]");
@@ -55,10 +40,10 @@ public final class RulesTest {
         for (Method method : face.getDeclaredMethods()) {
             if (!Modifier.isPrivate(method.getModifiers())) {
                 Expect.that("modifiers", Modifier.toString(method.getModifiers()), "public");
-                methods.add(signature(method));
+                methods.add(Document.signature(method));
             }
         }
-        Expect.that("the face", methods, new TreeSet<>(Arrays.asList(FACE)));
+        Expect.that("the face", methods, promisedMethods());
         TreeSet<String> fields = new TreeSet<>();
         for (Field field : face.getDeclaredFields()) {
             if (!Modifier.isPrivate(field.getModifiers())) {
@@ -69,9 +54,9 @@ public final class RulesTest {
                 + "public static final int TruthFilters.UNKNOWN_CELL]");
     }
 
-    private static void ownClasses() {
+    private static void ownClasses() throws IOException {
         TreeSet<String> faceNames = new TreeSet<>();
-        for (String method : FACE) {
+        for (String method : promisedMethods()) {
             faceNames.add(method.substring(method.indexOf(' ') + 1, method.indexOf('(')));
         }
         Class<?>[] inside = TruthFilters.class.getDeclaredClasses();

@@ -53,9 +53,9 @@ public final class TextTest {
             Expect.refused("append of " + code, Expect.ARGUMENT, x -> x.append(code));
         }
         String full = repeat("a?&", 20);
-        Expect.refused("append to the full buffer", Expect.STATE, withBuffer(full), withBuffer(full),
+        Expect.refused("append to the full buffer", Expect.STATE, () -> withBuffer(full),
                 x -> x.append('a'));
-        Expect.refused("append of a bad code to the full buffer", Expect.ARGUMENT, withBuffer(full), withBuffer(full),
+        Expect.refused("append of a bad code to the full buffer", Expect.ARGUMENT, () -> withBuffer(full),
                 x -> x.append(32));
         TruthFilters x = new TruthFilters();
         Expect.type(x, repeat("!", 59));
@@ -171,12 +171,12 @@ public final class TextTest {
     private static void defineWrong() {
         for (int slot : NO_SLOTS) {
             Expect.refused("define of slot " + slot, Expect.INDEX, x -> x.define(slot));
-            Expect.refused("define of a bad text, slot " + slot, Expect.INDEX, withBuffer("a"), withBuffer("a"),
+            Expect.refused("define of a bad text, slot " + slot, Expect.INDEX, () -> withBuffer("a"),
                     x -> x.define(slot));
         }
         for (String text : new String[] {"", "a", "a=", "a<", "!", "(", "(a?", "((a?)", "a?&", "a?|", "a=05", "a=100",
                 "a=1)", "e?", "a=1&&b?", "()", "a?b?", "a=e", "!!", "a?&(b?", "a=1)&(b=2", "a=-1", "a?~"}) {
-            Expect.refused("define of " + text, Expect.ARGUMENT, withBuffer(text), withBuffer(text), x -> x.define(2));
+            Expect.refused("define of " + text, Expect.ARGUMENT, () -> withBuffer(text), x -> x.define(2));
         }
     }
 

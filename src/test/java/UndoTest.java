@@ -14,14 +14,10 @@ public final class UndoTest {
         Expect.end();
     }
 
-    private interface Call {
-        int on(TruthFilters x);
-    }
-
     /** Each undoable call with an effect, without one, and refused. */
     private static void undoOfEachCall() {
         Expect.that("the sample has as many saved states as there can be", Expect.sample().count(6), 6);
-        Call[] calls = {
+        Expect.Call[] calls = {
             x -> x.add(1, 5, 5, 5, 5), x -> x.add(0, 9, 5, 5, 5),
             x -> x.change(0, 0, 0, 1), x -> x.change(0, 0, 0, 3), x -> x.change(0, 0, 0, 10),
             x -> x.drop(0, 1), x -> x.drop(1, 0),
@@ -173,8 +169,6 @@ public final class UndoTest {
             Expect.refused("goBack to slot " + slot, Expect.ARGUMENT, x -> x.goBack(slot));
         }
         Expect.refused("goBack to the empty slot", Expect.STATE, x -> x.goBack(1));
-        TruthFilters x = new TruthFilters();
-        TruthFilters twin = new TruthFilters();
-        Expect.refused("undo of nothing", Expect.STATE, x, twin, TruthFilters::undo);
+        Expect.refused("undo of nothing", Expect.STATE, TruthFilters::new, TruthFilters::undo);
     }
 }
